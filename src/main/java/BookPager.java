@@ -1507,7 +1507,7 @@ public final class BookPager {
         }
 
         private int rowsOfNotes(int bits) {
-            if (styleOf(FOOTNOTES) == 0) {
+            if (bits == 0 || styleOf(FOOTNOTES) == 0) {
                 return 0;
             }
             int rows = 0;

@@ -14,6 +14,7 @@ public final class EditsTest {
         deleteRefuses();
         split();
         splitMoves();
+        splitAtReader();
         splitLostAnnotations();
         splitRefuses();
         join();
@@ -162,6 +163,23 @@ public final class EditsTest {
                 "annotation(6, 4) = 0", "annotation(7, 0) = 2", "annotation(7, 1) = 0", "count(6) = 2000",
                 "back() = 0", "count(6) = 1001", "back() = 0", "count(6) = 1000", "back() = 0", "count(6) = 1",
                 "back() = 0", "count(6) = 0");
+    }
+
+    private static void splitAtReader() {
+        SCRIPT.run("promise 28, the reader at the blank",
+                "type ab cd", "load() = 1", "go(0, 2) = 0", "split(0, 1) = 2", "count(6) = 1", "undo() = 0",
+                "count(6) = 2");
+        SCRIPT.run("promise 28, the oldest jump at the blank",
+                "type ab cd", "load() = 1", "go(0, 2) = 0", "go(0, 0) = 0", "go(0, 0) = 0", "go(0, 0) = 0",
+                "go(0, 0) = 0", "go(0, 0) = 0", "split(0, 1) = 2", "back() = 0", "back() = 0", "back() = 0",
+                "back() = 0", "count(6) = 0", "back() = 0", "count(6) = 1");
+        SCRIPT.run("edits move the oldest jump, too",
+                "type ab cd ef", "load() = 1", "type x", "insert(0, 0) = 4", "count(6) = 2", "go(0, 0) = 0",
+                "type y", "insert(0, 0) = 5", "back() = 0", "count(6) = 4", "go(0, 0) = 0",
+                "delete(0, 0, 1) = 4", "back() = 0", "count(6) = 2");
+        SCRIPT.run("edits change the pages",
+                "type ab cd ef", "load() = 1", "setSize(18, 2) = 1", "split(0, 1) = 2", "count(3) = 2",
+                "split(1, 1) = 3", "count(4) = 2", "join(0) = 2", "count(4) = 1", "join(0) = 3", "count(3) = 1");
     }
 
     private static void splitLostAnnotations() {

@@ -49,8 +49,8 @@ public final class FaceTest {
         "long digest()",
     };
     private static final String[] FORBIDDEN = {
-        "->", "::", "\\bcatch\\b", "\\bfinally\\b", "\\bsynchronized\\b", "\\bassert\\b", "\\bimport\\b", "\\bpackage\\b",
-        "Exact\\(", "\\bstatic \\{", "\\binstanceof\\b", "[^\\x00-\\x7f]",
+        "->", "::", "\\bcatch\\b", "\\bfinally\\b", "\\bsynchronized\\b", "\\bassert\\b", "\\bimport\\b",
+        "\\bpackage\\b", "Exact\\(", "\\bstatic \\{", "\\binstanceof\\b", "[^\\x00-\\x7f]",
     };
 
     public static void main(String[] args) throws IOException {

@@ -173,7 +173,8 @@ public final class ModelTest {
             case 4:
             case 5:
                 int from = about(length);
-                call("annotate", paragraph, from, from + (length > from ? 1 + about(length - from) : about(2)), about(8));
+                int size = length > from ? 1 + about(length - from) : about(2);
+                call("annotate", paragraph, from, from + size, about(8));
                 break;
             case 6:
             case 7:
@@ -187,7 +188,7 @@ public final class ModelTest {
                 call("delete", paragraph, word, many);
                 break;
             case 9:
-                call("split", paragraph, about(words));
+                splitNearReader(paragraph, length, about(words));
                 break;
             case 10:
                 call("join", about(paragraphs - 1));
@@ -205,6 +206,22 @@ public final class ModelTest {
             default:
                 ask();
         }
+    }
+
+    /** Mostly with the reader just where the paragraph is split, where the rules are closest. */
+    private void splitNearReader(int paragraph, int length, int word) {
+        int offset = 0;
+        for (int blanks = 0; offset < length && random.nextInt(40) > 0; offset++) {
+            blanks += call("letter", paragraph, offset).equals("32") ? 1 : 0;
+            if (blanks == word) {
+                break;
+            }
+        }
+        call("go", paragraph, offset + random.nextInt(2));
+        call("go", paragraph, offset);
+        call("split", paragraph, word);
+        call("count", 6);
+        call("digest");
     }
 
     private void ask() {
