@@ -1621,14 +1621,11 @@ public final class BookPager {
             }
             int bits = notesOfPage(page);
             int noteRow = row - Math.max(lineRow, height - rowsOfNotes(bits));
-            return row < lineRow || noteRow < 0 ? ' ' : signOfNotes(bits, noteRow, column);
+            return noteRow < 0 ? ' ' : signOfNotes(bits, noteRow, column);
         }
 
         /** What the rows of notes show; the first one is the rule. */
         private int signOfNotes(int bits, int row, int column) {
-            if (rowsOfNotes(bits) == 0) {
-                return ' ';
-            }
             if (row == 0) {
                 return '-';
             }
