@@ -53,6 +53,8 @@ public final class ReaderTest {
                 "type a", "find(false) = 3", "find(true) = -1", "type ^1 zz", "find(false) = 1000",
                 "clearInput() = 6", "type abc", "find(false) = -1", "clearInput() = 3",
                 "type a^2", "find(false) = -1", "clearInput() = 3", "type AB", "find(false) = -1");
+        SCRIPT.run("promise 19, the reader within the word", "type ab cd", "load() = 1", "go(0, 4) = 0", "type cd",
+                "find(false) = 3", "find(true) = -1", "go(0, 2) = 0", "find(true) = 3", "find(false) = -1");
         SCRIPT.run("promise 19, the first word alone counts", "type x y|y z", "load() = 2", "type y x",
                 "find(true) = 2", "go(0, 2) = 0", "find(true) = 1000");
     }

@@ -36,6 +36,9 @@ public final class SizesTest {
                 "fit(2147483647) = 18", "fit(0) = throws IllegalArgumentException",
                 "fit(-1) = throws IllegalArgumentException", "count(3) = 2", "setSize(18, 2) = 2", "fit(1) = 27",
                 "setSize(18, 4) = 1", "fit(1) = 18", "count(4) = 1", "setSize(18, 2) = 2");
+        SCRIPT.run("promise 32, the greatest width",
+                "type #" + FOUR_LINES + " ffffffff", "load() = 1", "type " + FOUR_LINES, "insert(0, 5) = 9",
+                "setSize(30, 2) = 3", "fit(1) = 60", "setSize(59, 2) = 2", "setSize(60, 2) = 1");
         SCRIPT.run("promise 32, none", "type a|#b|#c", "load() = 3", "setSize(40, 2) = 3", "fit(1) = -1",
                 "fit(2) = -1", "fit(3) = 18", "setSize(40, 5) = 1", "fit(1) = 18");
     }
