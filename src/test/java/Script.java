@@ -1,13 +1,17 @@
 import java.lang.reflect.InvocationTargetException;
 import java.lang.reflect.Method;
 import java.util.ArrayList;
+import java.util.HashMap;
 import java.util.List;
+import java.util.Map;
 
 /**
  * Runs of calls written as the document writes them: "append(97) = 1", or
  * "pageOf(0, 1) = throws IndexOutOfBoundsException"; "type ab cd" appends each character of "ab cd".
  */
 final class Script {
+    private static final Map<String, Method> CALLS = calls();
+
     private int wrong;
 
     /** Plays the rows on a new object, once as they stand and once with a digest round each call. */
@@ -45,14 +49,15 @@ final class Script {
             String call = rows[row].substring(0, equals);
             String want = rows[row].substring(equals + 3);
             long before = digests ? pager.digest() : 0;
-            due(where + call, answer(pager, call), want);
+            due(where + call, answerTo(pager, call), want);
             if (digests && want.startsWith("throws ")) {
                 due(where + call + " changes nothing", pager.digest(), before);
             }
         }
     }
 
-    private static String answer(BookPager pager, String call) {
+    /** The answer of a call that is written as in the document. */
+    static String answerTo(BookPager pager, String call) {
         int open = call.indexOf('(');
         String name = call.substring(0, open);
         String inside = call.substring(open + 1, call.length() - 1);
@@ -66,12 +71,21 @@ final class Script {
 
     /** The answer of a call as a text; the class of an exception is told exactly. */
     static String answer(BookPager pager, String name, Object... arguments) {
+        Method method = CALLS.get(name);
+        if (method == null) {
+            throw new AssertionError("there is no call " + name);
+        }
+        return answer(pager, method, arguments);
+    }
+
+    private static Map<String, Method> calls() {
+        Map<String, Method> calls = new HashMap<>();
         for (Method method : BookPager.class.getMethods()) {
-            if (method.getDeclaringClass() == BookPager.class && method.getName().equals(name)) {
-                return answer(pager, method, arguments);
+            if (method.getDeclaringClass() == BookPager.class) {
+                calls.put(method.getName(), method);
             }
         }
-        throw new AssertionError("there is no call " + name);
+        return calls;
     }
 
     private static String answer(BookPager pager, Method method, Object... arguments) {
