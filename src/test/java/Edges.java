@@ -49,16 +49,28 @@ final class Edges {
 
     void edge(String name, String... rows) {
         due(name + " is a name of its own", names.add(name), true);
-        Run run = new Run();
-        for (int row = 0; row < rows.length; row++) {
-            String[] told = run.play(rows[row]);
-            due(name + ", row " + row + ": " + rows[row], told[0], told[1]);
+        play(name, rows, false, false);
+        if (Run.callsOf(rows) + rows.length <= Run.MOST_CALLS) {
+            play(name + " (a digest before even rows)", rows, true, false);
+            play(name + " (a digest before odd rows)", rows, false, true);
         }
         for (int row = 0; row < rows.length; row++) {
             if (rows[row].startsWith("still ") || rows[row].contains(" = throws ")) {
                 due(name + ", row " + row + ": " + rows[row] + " changes nothing",
                         Run.seen(rows, row + 1), Run.seen(rows, row));
             }
+        }
+    }
+
+    /** With digests before some rows, an answer that was true before the last change is seen as a wrong one. */
+    private void play(String name, String[] rows, boolean beforeEven, boolean beforeOdd) {
+        Run run = new Run();
+        for (int row = 0; row < rows.length; row++) {
+            if (row % 2 == 0 ? beforeEven : beforeOdd) {
+                run.ask("digest()");
+            }
+            String[] told = run.play(rows[row]);
+            due(name + ", row " + row + ": " + rows[row], told[0], told[1]);
         }
     }
 

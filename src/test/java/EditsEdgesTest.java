@@ -48,7 +48,10 @@ public final class EditsEdgesTest {
                 "undo() = 0", "annotation(0, 1) = " + from, "annotation(0, 2) = " + to, "annotation(0, 4) = 0"));
     }
 
-    /** The reader and a jump at an offset of the middle paragraph before an edit, and their position behind it. */
+    /**
+     * The reader, the latest jump and the oldest of five jumps at an offset of the middle paragraph before an edit,
+     * and their position behind it.
+     */
     private static void positionMoves(String name, int offset, String[] edit, int position) {
         String[] reader = Edges.joined(new String[] {"go(1, " + offset + ") = 0"}, edit);
         edge(name + ", the reader", Edges.joined(reader, "count(6) = " + position, "undo() = 0",
@@ -56,6 +59,10 @@ public final class EditsEdgesTest {
         String[] jump = Edges.joined(new String[] {"go(1, " + offset + ") = 0", "go(0, 0) = 0"}, edit);
         edge(name + ", a jump", Edges.joined(jump, "back() = 0", "count(6) = " + position, "undo() = 0", "back() = 0",
                 "count(6) = " + (1000 + offset)));
+        String[] oldest = Edges.joined(new String[] {"go(1, " + offset + ") = 0", "go(0, 0) = 0", "go(0, 0) = 0",
+            "go(0, 0) = 0", "go(0, 0) = 0", "go(0, 0) = 0", "count(9) = 5"}, edit);
+        edge(name + ", the oldest of five jumps", Edges.joined(oldest, "back() = 0", "back() = 0", "back() = 0",
+                "back() = 0", "back() = 0", "count(6) = " + position, "count(9) = 0"));
     }
 
     // ---- promise 26
@@ -482,6 +489,15 @@ public final class EditsEdgesTest {
         EDGES.edge("promise 30, undo: the fifth edit lets the oldest one go", Edges.joined(four, "delete(0, 0, 1) = 2",
                 "count(10) = 4", "undo() = 3", "letter(0, 0) = 101", "undo() = 2", "letter(0, 0) = 100", "undo() = 1",
                 "letter(0, 0) = 99", "undo() = 0", "letter(0, 0) = 98", "undo()" + STATE, "paragraph(0, 1) = 6"));
+        EDGES.edge("promise 30, undo: behind the fifth edit each one has its own reader and annotations",
+                "type a b c d e f g", "load() = 1", "go(0, 12) = 0", "annotate(0, 12, 13, 0) = 0",
+                "delete(0, 0, 1) = 6", "annotate(0, 10, 11, 1) = 1", "go(0, 9) = 0", "delete(0, 0, 1) = 5",
+                "annotate(0, 8, 9, 2) = 2", "go(0, 6) = 0", "delete(0, 0, 1) = 4", "annotate(0, 6, 7, 3) = 3",
+                "go(0, 3) = 0", "delete(0, 0, 1) = 3", "annotate(0, 4, 5, 4) = 4", "go(0, 4) = 0",
+                "delete(0, 0, 1) = 2", "undo() = 3", "count(6) = 4", "count(7) = 5", "count(9) = 5", "undo() = 2",
+                "count(6) = 3", "count(7) = 4", "annotation(3, 3) = 3", "undo() = 1", "count(6) = 6", "count(7) = 3",
+                "annotation(0, 1) = 8", "annotation(2, 3) = 2", "count(9) = 3", "undo() = 0", "count(6) = 9",
+                "count(7) = 2", "annotation(1, 1) = 10", "count(9) = 2", "back() = 0", "count(6) = 10");
         EDGES.edge("promise 30, undo: the sixth edit lets the next one go", Edges.joined(four, "delete(0, 0, 1) = 2",
                 "delete(0, 0, 1) = 1", "count(10) = 4", "undo() = 3", "undo() = 2", "undo() = 1", "undo() = 0",
                 "letter(0, 0) = 99", "undo()" + STATE));

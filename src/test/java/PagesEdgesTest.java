@@ -207,6 +207,11 @@ public final class PagesEdgesTest {
             rows = Edges.joined(rows, "type n", "setNote(" + note + ") = 0", "page(0, 4) = " + (note + 2));
         }
         EDGES.edge("promise 10, page: ten notes with a text", Edges.joined(rows, "page(0, 5) = 10", "page(0, 3) = 1"));
+        for (int note : new int[] {0, 9}) {
+            EDGES.edge("promise 10, page: note " + note + " alone", "type a^" + note, "load() = 1", "type n",
+                    "setNote(" + note + ") = 0", "setStyle(4, 1) = 0", "page(0, 4) = 2", "page(0, 5) = 1",
+                    "setSize(18, 3) = 1", "shown(0, 1, 0) = 45", "shown(0, 2, 0) = " + (48 + note));
+        }
         EDGES.edge("promise 10, page: a note counts once", "type a^1 b^1|c^1", "load() = 2", "type n",
                 "setNote(1) = 0", "setStyle(4, 1) = 0", "page(0, 4) = 2", "page(0, 5) = 1", "page(0, 3) = 2");
         EDGES.edge("promise 10, page: footnotes are not shown", "type a^1", "load() = 1", "type n", "setNote(1) = 0",
@@ -473,8 +478,8 @@ public final class PagesEdgesTest {
                 "shown(0, 18, 0) = 45", "shown(0, 18, 59) = 45", "shown(0, 17, 0) = 32", "shown(0, 19, 59) = 32"));
         EDGES.edge("promise 12, shown: the last line of the notes is in the last row", Edges.joined(noted,
                 "setSize(18, 8) = 1", "shown(0, 4, 0) = 32", "shown(0, 5, 0) = 45", "shown(0, 6, 0) = 49",
-                "shown(0, 6, 1) = 32", "shown(0, 6, 2) = 99", "shown(0, 6, 14) = 32", "shown(0, 7, 0) = 100",
-                "shown(0, 7, 11) = 100", "shown(0, 7, 12) = 32"));
+                "shown(0, 6, 1) = 32", "shown(0, 6, 2) = 99", "shown(0, 6, 14) = 32", "shown(0, 6, 15) = 32",
+                "shown(0, 7, 0) = 100", "shown(0, 7, 11) = 100", "shown(0, 7, 12) = 32"));
         EDGES.edge("promise 12, shown: the notes follow the lines at once", Edges.joined(noted, "setSize(18, 5) = 1",
                 "shown(0, 1, 2) = 98", "shown(0, 2, 0) = 45", "shown(0, 3, 0) = 49", "shown(0, 4, 0) = 100"));
         EDGES.edge("promise 12, shown: the last line of a note is beyond the height", Edges.joined(noted,
@@ -520,6 +525,10 @@ public final class PagesEdgesTest {
         EDGES.edge("promise 13, noteOn: a page without a note", "noteOn(0, 0)" + INDEX);
         EDGES.edge("promise 13, noteOn: a page with one note", "type a^5 b^5", "load() = 1", "noteOn(0, 0) = 5",
                 "noteOn(0, 1)" + INDEX);
+        EDGES.edge("promise 13, noteOn: a note without a text, and footnotes on", "type a^5", "load() = 1",
+                "setStyle(4, 1) = 0", "noteOn(0, 0) = 5", "noteOn(0, 1)" + INDEX);
+        EDGES.edge("promise 13, noteOn: a reference in the text of a note", "type a^5", "load() = 1", "type n^2",
+                "setNote(5) = 0", "setStyle(4, 1) = 0", "noteOn(0, 0) = 5", "noteOn(0, 1)" + INDEX);
         EDGES.edge("promise 13, noteOn: the notes of another page", "type a^1|b^0|c", "load() = 3",
                 "setStyle(2, 2) = 0", "setSize(18, 2) = 3", "noteOn(0, 0) = 1", "noteOn(0, 1)" + INDEX,
                 "noteOn(1, 0) = 0", "noteOn(2, 0)" + INDEX);
@@ -551,6 +560,9 @@ public final class PagesEdgesTest {
                 "pageOf(0, " + Edges.GREATEST_INT + ")" + INDEX));
         EDGES.edge("promise 14, pageOf: a paragraph that ends a page", "type a|b|c", "load() = 3",
                 "setSize(18, 2) = 2", "pageOf(1, 0) = 0", "pageOf(2, 0) = 1");
+        EDGES.edge("promise 14, pageOf: pages of one line", "type ab|cd|ef", "load() = 3", "setStyle(2, 2) = 0",
+                "setSize(18, 2) = 3", "pageOf(0, 0) = 0", "pageOf(0, 1) = 0", "pageOf(1, 0) = 1", "pageOf(1, 1) = 1",
+                "pageOf(2, 0) = 2", "pageOf(2, 1) = 2");
         EDGES.edge("promise 14, pageOf: the offset of another paragraph", "type ab|c|def", "load() = 3",
                 "pageOf(1, 1)" + INDEX, "pageOf(0, 2)" + INDEX, "pageOf(2, 2) = 0");
         EDGES.richEdge("promise 14, pageOf: refused in a full state", "pageOf(4, 0)" + INDEX, "pageOf(3, 2)" + INDEX,

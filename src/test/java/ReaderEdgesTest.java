@@ -92,6 +92,9 @@ public final class ReaderEdgesTest {
                 "go(0, 1) = 0", "go(1, 0) = 0", "go(1, 1) = 0", "go(0, 1) = 0", "go(0, 0) = 0", "turn(true) = 1",
                 "count(9) = 5", "back() = 0", "count(6) = 1", "back() = 0", "back() = 0", "back() = 0", "back() = 0",
                 "count(6) = 0", "back()" + STATE);
+        EDGES.edge("promise 17, turn: to a page that is there by the last call alone", "type a|b", "load() = 2",
+                "setSize(18, 2) = 1", "setStyle(2, 1) = 0", "turn(true) = 1", "count(6) = 1000", "setStyle(2, 0) = 1",
+                "turn(false) = -1", "count(6) = 1000");
         EDGES.edge("promise 17, turn: to a page that begins within a paragraph", "type " + Edges.FOUR_LINES,
                 "load() = 1", "setSize(18, 3) = 2", "turn(true) = 1", "count(6) = 39", "turn(false) = 0",
                 "count(6) = 0");
@@ -128,6 +131,10 @@ public final class ReaderEdgesTest {
                 "go(0, 1) = 0", "type b", "still find(true) = 2", "still find(false) = -1");
         EDGES.edge("promise 19, find: a word that begins just before the position", "type ab c", "load() = 1",
                 "go(0, 1) = 0", "type ab", "still find(false) = 0", "still find(true) = -1");
+        EDGES.edge("promise 19, find: the last word of the book, from its last character", "type a bc", "load() = 1",
+                "go(0, 3) = 0", "type bc", "find(false) = 2", "find(true) = -1");
+        EDGES.edge("promise 19, find: the first word of the book, from its last character", "type ab", "load() = 1",
+                "go(0, 1) = 0", "type ab", "find(false) = 0", "find(true) = -1");
         EDGES.edge("promise 19, find: the last word, from the first character", "type a b", "load() = 1", "type b",
                 "find(true) = 2", "find(false) = -1");
         EDGES.edge("promise 19, find: the first word, from the last character", "type a b", "load() = 1",

@@ -6,7 +6,7 @@ import java.util.List;
  * no test asks for an answer that is free.
  */
 final class Run {
-    private static final int MOST_CALLS = 512;
+    static final int MOST_CALLS = 512;
     private static final int NOTES = 10;
     private static final int JUMPS = 5;
     private static final int EDITS = 4;
@@ -21,6 +21,14 @@ final class Run {
             run.play(rows[row]);
         }
         return run;
+    }
+
+    static int callsOf(String[] rows) {
+        int calls = 0;
+        for (String row : rows) {
+            calls += row.startsWith("type ") ? row.length() - 5 : 1;
+        }
+        return calls;
     }
 
     /** Plays a row; answers what the call answered, and what is due by the row. */

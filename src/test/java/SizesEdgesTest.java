@@ -131,6 +131,9 @@ public final class SizesEdgesTest {
         EDGES.edge("promise 33, fullness: the most pages", "type " + Edges.TEN_PARAGRAPHS, "load() = 10",
                 "setStyle(2, 2) = 0", "setSize(18, 3) = 10", "fullness() = " + 9.0 / 27.0, "setSize(18, 2) = 10",
                 "fullness() = 0.5");
+        EDGES.edge("promise 33, fullness: a second page by the last call alone", "type a|b", "load() = 2",
+                "setSize(18, 2) = 1", "setStyle(2, 1) = 0", "fullness() = 0.5", "setStyle(2, 0) = 1",
+                "fullness() = 0.0");
         EDGES.richEdge("promise 33, fullness: nothing is changed by it", "still fullness() = " + 5.0 / 6.0);
     }
 
